@@ -1,0 +1,79 @@
+import java.lang.reflect.Field;
+import java.util.Arrays;
+
+/**
+ * No run of calls reaches ROUND 5 (see PromiseTest.lastRound), so what CUPS KEPT and by what clubs are
+ * TOPPED up is looked at in a season that is put into the object from outside.
+ */
+public final class KeptTest {
+    private static final int[] GUARDS = {200, 30, 0, 50, 30, 7};
+
+    public static void main(String[] args) throws ReflectiveOperationException {
+        // of ROUND 5: each WINNER half, of 101 less than the whole; 1 is left
+        expect(101, 0, 50, 1);
+        expect(101, 3, 0, 101);
+        expect(101, 1, 25, 1);
+        expect(0, 3, 0, 0);
+        // LACKS with WAY 3: 200, 30, 0, 50, 30, 7
+        topped(0, 0, 0, 0, 0, 0, 0);
+        topped(6, 0, 0, 0, 0, 0, 6);
+        topped(7, 0, 0, 0, 0, 0, 7);
+        topped(8, 0, 1, 0, 0, 0, 7);
+        topped(50, 0, 30, 0, 0, 13, 7);
+        topped(101, 0, 30, 0, 34, 30, 7);
+        topped(117, 0, 30, 0, 50, 30, 7);
+        topped(1000, 200, 30, 0, 50, 30, 7);
+        carriedOn();
+        Check.finish("KeptTest");
+    }
+
+    private static CupPot lastRound(int gate, int way) throws ReflectiveOperationException {
+        StringBuilder book = new StringBuilder();
+        for (int guard : GUARDS) {
+            book.append("club 0 0 ").append(guard).append(';');
+        }
+        CupPot x = Check.withBook(book + "cup 0 0 100;cup 0 0 100;way 1 5 " + way);
+        x.tie(1, 0, 0, 1);
+        x.tie(1, 0, 2, 3);
+        x.play(0, gate - gate / 3, 0);
+        x.play(1, gate / 3, 1);
+        Object season = field(x, "season");
+        Arrays.fill((int[]) field(season, "rounds"), 5);
+        return x;
+    }
+
+    private static Object field(Object of, String name) throws ReflectiveOperationException {
+        Field f = of.getClass().getDeclaredField(name);
+        f.setAccessible(true);
+        return f.get(of);
+    }
+
+    private static void expect(int gate, int way, int each, int kept) throws ReflectiveOperationException {
+        CupPot x = lastRound(gate, way);
+        Check.due("nothing is kept yet", 0, x.all(5));
+        Check.due("close(1, 5), way " + way, each, x.close(1, 5));
+        Check.due("cup(1, 11), way " + way, kept, x.cup(1, 11));
+        Check.due("cup(0, 11)", 0, x.cup(0, 11));
+        Check.due("all(5)", kept, x.all(5));
+        Check.due("the pot has it", kept, x.balance(GUARDS.length));
+    }
+
+    private static void topped(int gate, int... want) throws ReflectiveOperationException {
+        CupPot x = lastRound(gate, 3);
+        x.close(1, 5);
+        Check.due("all(5)", gate, x.all(5));
+        for (int club = 0; club < GUARDS.length; club++) {
+            Check.due("LACKS as it did", GUARDS[club], x.club(club, 8));
+            Check.due("club(" + club + ", 9), kept " + gate, want[club], x.club(club, 9));
+            Check.due("TOPPED is nothing that it HAS", 0, x.club(club, 3));
+        }
+    }
+
+    private static void carriedOn() throws ReflectiveOperationException {
+        CupPot x = lastRound(101, 0);
+        Arrays.fill((int[]) field(field(x, "season"), "rounds"), 4);
+        Check.due("close(1, 4)", 50, x.close(1, 4));
+        Check.due("carried into ROUND 5", 1, x.pool(1, 5, 1));
+        Check.due("is not kept", 0, x.cup(1, 11));
+    }
+}

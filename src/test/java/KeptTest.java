@@ -6,7 +6,7 @@ import java.util.Arrays;
  * TOPPED up is looked at in a season that is put into the object from outside.
  */
 public final class KeptTest {
-    private static final int[] GUARDS = {200, 30, 0, 50, 30, 7};
+    private static final int[] GUARDS = {200, 30, 0, 50, 30, 7, 1};
 
     public static void main(String[] args) throws ReflectiveOperationException {
         // of ROUND 5: each WINNER half, of 101 less than the whole; 1 is left
@@ -14,15 +14,16 @@ public final class KeptTest {
         expect(101, 3, 0, 101);
         expect(101, 1, 25, 1);
         expect(0, 3, 0, 0);
-        // LACKS with WAY 3: 200, 30, 0, 50, 30, 7
-        topped(0, 0, 0, 0, 0, 0, 0);
-        topped(6, 0, 0, 0, 0, 0, 6);
-        topped(7, 0, 0, 0, 0, 0, 7);
-        topped(8, 0, 1, 0, 0, 0, 7);
-        topped(50, 0, 30, 0, 0, 13, 7);
-        topped(101, 0, 30, 0, 34, 30, 7);
-        topped(117, 0, 30, 0, 50, 30, 7);
-        topped(1000, 200, 30, 0, 50, 30, 7);
+        // LACKS with WAY 3: 200, 30, 0, 50, 30, 7, 1
+        topped(0, 0, 0, 0, 0, 0, 0, 0);
+        topped(1, 0, 0, 0, 0, 0, 0, 1);
+        topped(7, 0, 0, 0, 0, 0, 6, 1);
+        topped(8, 0, 0, 0, 0, 0, 7, 1);
+        topped(9, 0, 1, 0, 0, 0, 7, 1);
+        topped(51, 0, 30, 0, 0, 13, 7, 1);
+        topped(102, 0, 30, 0, 34, 30, 7, 1);
+        topped(118, 0, 30, 0, 50, 30, 7, 1);
+        topped(1000, 200, 30, 0, 50, 30, 7, 1);
         carriedOn();
         Check.finish("KeptTest");
     }

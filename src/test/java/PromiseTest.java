@@ -173,7 +173,7 @@ public final class PromiseTest {
     // terms 1: each FAULT of a BOOK and its place
     private static void bookFaults() {
         String[] misplaced = {"|", "   |", " |;", "club|", "club 1 2 |;", "|clubs 1 2 3", "|Club 1 2 3",
-            "|c lub 1 2 3", "club 1 2 3 |4", "club 1 2 3;|", "club 1 2 3; |;", "club |-1 2 3",
+            "|c lub 1 2 3", "|xlub 1 2 3", "|clubz 1 2 3", "|aclub 1 2 3", "club 1 2 3 |4", "club 1 2 3;|", "club 1 2 3; |;", "club |-1 2 3",
             "club|\t1 2 3", "club 1|,2 3", "club 1 2 |a", "|1 club", "|tie 0 0 0 1",
             "cup 60 60|", "cup 60 60 |x", "cup 60 30 10 floor 1 |first 1", "cup 60 30 10 first 1 |first 1",
             "cup 60 30 10 odd 1 |neutral 2", "cup 60 30 10 neutral 2 |again 1 2 97", "cup 60 30 10 again 1 2|",
@@ -274,7 +274,7 @@ public final class PromiseTest {
     }
 
     private static void deedsFaults() {
-        String[] misplaced = {"|", "\n |", "|;", "tie 0 0 0|", "tie 0 0 0 1 |2", "tie 0 0 0 1;|", "|ties 0 0 0 1",
+        String[] misplaced = {"|", "\n |", "|;", "tie 0 0 0|", "tie 0 0 0 1 |2", "tie 0 0 0 1;|", "|ties 0 0 0 1", "|xie 0 0 0 1",
             "tie |a 0 0 0", "play 0 1 |won", "play 0 1|", "play 0 1 |2", "play 0 |first", "play 0 1 |firstly",
             "tie 0 0 0 1;|;", "close 0|", "close 0 0 |0", "|club 1 2 3", "|cup 60 30 10",
             "tie 0 0 0 |-1", "tie 0 0 0 1 |first", "|Tie 0 0 0 1", "tie 0 0 0 1 |0000000"};
@@ -944,6 +944,11 @@ public final class PromiseTest {
         x.tie(0, 0, 0, 1);
         due("the last gate", 99999, x.least(0, 99999, 0));
         due("none", NOT_NOW, x.least(0, 100000, 0));
+        // 99 due and 999 whole hundreds leave the last gate alone
+        x = Check.withBook("club 99 0 0;club 0 0 0;cup 100 0 0");
+        x.tie(0, 0, 0, 1);
+        due("the last gate", 99999, x.least(0, 99999, 0));
+        due("the last but one", 99998, x.least(0, 99998, 0));
     }
 
     // promises 30, 31

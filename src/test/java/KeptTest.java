@@ -24,6 +24,7 @@ public final class KeptTest {
         topped(102, 0, 30, 0, 34, 30, 7, 1);
         topped(118, 0, 30, 0, 50, 30, 7, 1);
         topped(1000, 200, 30, 0, 50, 30, 7, 1);
+        keptTogether();
         carriedOn();
         Check.finish("KeptTest");
     }
@@ -68,6 +69,31 @@ public final class KeptTest {
             Check.due("club(" + club + ", 9), kept " + gate, want[club], x.club(club, 9));
             Check.due("TOPPED is nothing that it HAS", 0, x.club(club, 3));
         }
+    }
+
+    private static void keptTogether() throws ReflectiveOperationException {
+        Check.says("TOPPED: of all that CUPS KEPT together");
+        // all 9 of CUP 1; of 5 of CUP 0 each WINNER gets 2, and 1 is KEPT
+        CupPot x = lastRound(9, 3);
+        x.tie(0, 0, 5, 6);
+        x.play(2, 5, 0);
+        x.tie(0, 0, 3, 4);
+        x.play(3, 0, 0);
+        Arrays.fill((int[]) field(field(x, "season"), "rounds"), 5);
+        Check.due("close(0, 5)", 2, x.close(0, 5));
+        Check.due("close(1, 5)", 0, x.close(1, 5));
+        Check.due("cup(0, 11)", 1, x.cup(0, 11));
+        Check.due("cup(1, 11)", 9, x.cup(1, 11));
+        Check.due("all(5)", 10, x.all(5));
+        // 3 and 5 won 2 each: LACKS are 200, 30, 0, 48, 30, 5, 1
+        int[] want = {0, 4, 0, 0, 0, 5, 1};
+        for (int club = 0; club < GUARDS.length; club++) {
+            Check.due("club(" + club + ", 9)", want[club], x.club(club, 9));
+        }
+        x.undo();
+        Check.due("one CUP's is not KEPT any more", 1, x.all(5));
+        Check.due("club(6, 9)", 1, x.club(6, 9));
+        Check.due("club(5, 9)", 0, x.club(5, 9));
     }
 
     private static void carriedOn() throws ReflectiveOperationException {

@@ -160,16 +160,6 @@ public final class PromiseTest {
         due("neutral is as usual", 6, x.cup(0, 9));
     }
 
-    /** Puts the text's place of the sign | to the test; the sign itself is left out. */
-    private static void bookFault(String text, int want) {
-        CupPot x = new CupPot();
-        Check.tell(x, text.replace("|", ""));
-        due("book(): " + text, NONE, x.book());
-        due("fault(0): " + text, want, x.fault(0));
-        due("fault(1): " + text, text.indexOf('|'), x.fault(1));
-        due("tape: " + text, 0, x.count(7));
-    }
-
     // terms 1: each FAULT of a BOOK and its place
     private static void bookFaults() {
         String[] misplaced = {"|", "   |", " |;", "club|", "club 1 2 |;", "|clubs 1 2 3", "|Club 1 2 3",
@@ -180,7 +170,7 @@ public final class PromiseTest {
             "cup 60 30 10 |club 1 2 3", "cup 60 30 10 |odds 1", "cup 60 30 10 |1", "cup 60 30 10;way 0 0 0 |1",
             "cup 60 30 10;way|", "club 1 2 3 |\u00e9", "club 1 2 3;club 1 2 3;cup 60 30 10;|", "club 1 2 3 |1000000"};
         for (String text : misplaced) {
-            bookFault(text, 1);
+            Check.bookFault(text, 1);
         }
         String[] numbers = {"club |10000 0 0", "club 9999 |10000 0", "club 0 0 |100000", "club 0 0 |000001",
             "club |123456789012345678901234567890 0 0", "club |0000000 1 1", "cup |101 0 0", "cup 0 |101 0",
@@ -190,18 +180,18 @@ public final class PromiseTest {
             "cup 60 30 10 odd |3", "way |0 0 0", "cup 60 30 10;way |1 0 0", "cup 60 30 10;way 0 |6 0",
             "cup 60 30 10;way 0 0 |4", "way |0 0 0;cup 60 30 10"};
         for (String text : numbers) {
-            bookFault(text, 2);
+            Check.bookFault(text, 2);
         }
         String twelve = "club 0 0 0;".repeat(12);
-        bookFault(twelve + "|club 0 0 0", 3);
-        bookFault(twelve + "|club", 3);
-        bookFault("cup 1 1 98;".repeat(4) + " |cup 1 1 98", 3);
-        bookFault(twelve + "|clubs", 1);
-        bookFault("club 1 2 3|", 4);
-        bookFault("club 1 2 3 \n |", 4);
-        bookFault("club 1 2 3;club 1 2 3|", 4);
-        bookFault("club 1 2 3;cup 60 30 10|", 4);
-        bookFault("cup 60 30 10;way 0 0 0|", 4);
+        Check.bookFault(twelve + "|club 0 0 0", 3);
+        Check.bookFault(twelve + "|club", 3);
+        Check.bookFault("cup 1 1 98;".repeat(4) + " |cup 1 1 98", 3);
+        Check.bookFault(twelve + "|clubs", 1);
+        Check.bookFault("club 1 2 3|", 4);
+        Check.bookFault("club 1 2 3 \n |", 4);
+        Check.bookFault("club 1 2 3;club 1 2 3|", 4);
+        Check.bookFault("club 1 2 3;cup 60 30 10|", 4);
+        Check.bookFault("cup 60 30 10;way 0 0 0|", 4);
         CupPot x = Check.withBook(twelve + "cup 1 1 98;cup 1 1 98;cup 1 1 98;cup 1 1 98");
         due("12 clubs", 12, x.count(0));
         due("4 cups", 4, x.count(1));
@@ -264,27 +254,18 @@ public final class PromiseTest {
         due("place", 594, x.fault(1));
     }
 
-    private static void deedsFault(String text, int want) {
-        CupPot x = Check.withBook(BOOK);
-        due("deeds(): " + text, NONE, Check.deeds(x, text.replace("|", "")));
-        due("fault(0): " + text, want, x.fault(0));
-        due("fault(1): " + text, text.indexOf('|'), x.fault(1));
-        due("nothing done: " + text, 0, x.count(2));
-        due("tape: " + text, 0, x.count(7));
-    }
-
     private static void deedsFaults() {
         String[] misplaced = {"|", "\n |", "|;", "tie 0 0 0|", "tie 0 0 0 1 |2", "tie 0 0 0 1;|", "|ties 0 0 0 1", "|xie 0 0 0 1",
             "tie |a 0 0 0", "play 0 1 |won", "play 0 1|", "play 0 1 |2", "play 0 |first", "play 0 1 |firstly",
             "tie 0 0 0 1;|;", "close 0|", "close 0 0 |0", "|club 1 2 3", "|cup 60 30 10",
             "tie 0 0 0 |-1", "tie 0 0 0 1 |first", "|Tie 0 0 0 1", "tie 0 0 0 1 |0000000"};
         for (String text : misplaced) {
-            deedsFault(text, 1);
+            Check.deedsFault(BOOK, text, 1);
         }
         String[] numbers = {"tie |100000 0 0 1", "tie 0 0 0 |000001", "play 0 |100000 first", "close 0 |123456",
             "tie 0 0 0 1;play 0 |999999 first;oh"};
         for (String text : numbers) {
-            deedsFault(text, 2);
+            Check.deedsFault(BOOK, text, 2);
         }
         CupPot x = new CupPot();
         due("no BOOK", NONE, Check.deeds(x, "tie 0 0 0 1"));

@@ -35,6 +35,7 @@ public final class ActBoundsTest {
         againOfNothingKept();
         againIsAnAct();
         againAsKept();
+        againOfOtherTies();
         Check.finish("ActBoundsTest");
     }
 
@@ -102,12 +103,15 @@ public final class ActBoundsTest {
     }
 
     private static int tieOn(int cup, int round, int first, int second) {
-        CupPot x = new CupPot();
-        Twins.BOOKED.on(x);
+        CupPot x = Twins.made(Twins.BOOKED);
         return x.tie(cup, round, first, second);
     }
 
     private static void tieOfUnlikeClubs() {
+        Check.says("-2 it can't be (now)");
+        refusedTie(Twins.BOOKED, NOT_NOW, 0, 0, 2, 2);
+        refusedPlay(Twins.MIDWAY, NOT_NOW, 0, 5, 0);
+        refusedClose(Twins.BOOKED, NOT_NOW, 0, 0);
         Check.says("It can be if both are unlike");
         for (int club = 0; club < 4; club++) {
             refusedTie(Twins.BOOKED, NOT_NOW, 0, 0, club, club);
@@ -121,19 +125,16 @@ public final class ActBoundsTest {
         int[][] pairs = {{2, 5}, {5, 2}, {2, 0}, {0, 2}, {5, 0}, {0, 5}, {2, 7}, {7, 5}};
         for (int[] pair : pairs) {
             refusedTie(before, NOT_NOW, 0, 0, pair[0], pair[1]);
-            CupPot x = new CupPot();
-            before.on(x);
+            CupPot x = Twins.made(before);
             due("of another CUP", 1, x.tie(1, 0, pair[0], pair[1]));
         }
-        CupPot x = new CupPot();
-        before.on(x);
+        CupPot x = Twins.made(before);
         due("others", 1, x.tie(0, 0, 1, 4));
         // though it is DECIDED
         x.play(0, 5, 0);
         due("who won", NOT_NOW, x.tie(0, 0, 2, 0));
         due("who lost", NOT_NOW, x.tie(0, 0, 0, 5));
-        x = new CupPot();
-        fourWinners().on(x);
+        x = Twins.made(fourWinners());
         due("of another ROUND", 4, x.tie(0, 1, 0, 2));
         due("of that ROUND", NOT_NOW, x.tie(0, 1, 0, 4));
         due("of that ROUND", NOT_NOW, x.tie(0, 1, 4, 2));
@@ -146,13 +147,11 @@ public final class ActBoundsTest {
             x.tie(0, 0, 0, 1);
             x.play(0, 5, 1);
         });
-        CupPot x = new CupPot();
-        decided.on(x);
+        CupPot x = Twins.made(decided);
         due("not CLOSED yet", 1, x.tie(0, 0, 2, 3));
         Twins.Step closed = Twins.then(decided, y -> y.close(0, 0));
         refusedTie(closed, NOT_NOW, 0, 0, 2, 3);
-        x = new CupPot();
-        closed.on(x);
+        x = Twins.made(closed);
         due("of another CUP", 1, x.tie(1, 0, 2, 3));
         Twins.Step second = Twins.then(fourWinners(), y -> {
             y.tie(0, 1, 0, 2);
@@ -175,8 +174,7 @@ public final class ActBoundsTest {
         });
         refusedTie(notYet, NOT_NOW, 0, 1, 0, 2);
         Twins.Step closed = Twins.then(notYet, x -> x.close(0, 0));
-        CupPot x = new CupPot();
-        closed.on(x);
+        CupPot x = Twins.made(closed);
         due("CLOSED", 2, x.tie(0, 1, 0, 2));
         refusedTie(closed, NOT_NOW, 1, 1, 0, 2);
         for (int round = 2; round < 6; round++) {
@@ -201,8 +199,7 @@ public final class ActBoundsTest {
         refusedTie(before, NOT_NOW, 0, 1, 3, 2);
         refusedTie(before, NOT_NOW, 0, 1, 1, 3);
         refusedTie(before, NOT_NOW, 0, 1, 7, 6);
-        CupPot x = new CupPot();
-        before.on(x);
+        CupPot x = Twins.made(before);
         due("winners", 5, x.tie(0, 1, 0, 6));
         due("winners", 6, x.tie(0, 1, 4, 2));
         x.play(5, 1, 1);
@@ -212,6 +209,7 @@ public final class ActBoundsTest {
         due("who won in ROUND 0 alone", NOT_NOW, x.tie(0, 2, 6, 4));
         due("winners of ROUND 1", 7, x.tie(0, 2, 2, 6));
         noneInTheRoundAhead();
+        whoWonAGameThatIsNoMore();
     }
 
     private static void noneInTheRoundAhead() {
@@ -224,6 +222,23 @@ public final class ActBoundsTest {
         refusedTie(before, NOT_NOW, 0, 1, 4, 5);
         refusedTie(before, NOT_NOW, 0, 1, 0, 4);
         refusedTie(before, NOT_NOW, 0, 1, 4, 0);
+    }
+
+    private static void whoWonAGameThatIsNoMore() {
+        for (int turn = 0; turn < 2; turn++) {
+            CupPot x = Twins.made(eightClubs());
+            Check.deeds(x, "tie 0 0 0 1;play 0 5 first");
+            x.keep(0);
+            due("deeds()", 2, Check.deeds(x, "tie 0 0 2 3;play 1 5 first"));
+            if (turn == 0) {
+                x.undo();
+            } else {
+                x.again(0);
+            }
+            due("close(0, 0)", 5, x.close(0, 0));
+            due("tie()", NOT_NOW, x.tie(0, 1, 0, 2));
+            due("tie()", NOT_NOW, x.tie(0, 1, 2, 0));
+        }
     }
 
     /** 24 TIES of ROUND 0, of which those of CUPS 0 to 2 are CLOSED, and up to 6 of ROUND 1. */
@@ -246,19 +261,18 @@ public final class ActBoundsTest {
 
     private static void thirtyTies() {
         Check.says("A TIE (30 at most, numbered from 0 on)");
-        CupPot x = new CupPot();
-        manyTies(29).on(x);
+        CupPot x = Twins.made(manyTies(29));
         due("29", 29, x.count(2));
         due("the 30th", 29, x.tie(2, 1, 0, 1));
         due("the 31st", NOT_NOW, x.tie(2, 1, 2, 3));
         due("30", 30, x.count(2));
         x.undo();
         due("the 30th again", 29, x.tie(2, 1, 2, 3));
+        Check.says("-1; -2 (there are 30, too).");
         refusedTie(manyTies(30), NOT_NOW, 2, 1, 0, 1);
         // a number that can't be is looked at first
         refusedTie(manyTies(30), NONE, 4, 1, 0, 1);
-        x = new CupPot();
-        manyTies(30).on(x);
+        x = Twins.made(manyTies(30));
         due("the last can be played", 1, x.play(29, 5, 0));
         due("none such", NONE, x.play(30, 5, 0));
         due("TIE 29", 1, x.tieOf(29, 0));
@@ -268,8 +282,7 @@ public final class ActBoundsTest {
 
     private static void numberedFromZero() {
         Check.says("Act: a TIE: its number.");
-        CupPot x = new CupPot();
-        eightClubs().on(x);
+        CupPot x = Twins.made(eightClubs());
         due("the first", 0, x.tie(1, 0, 6, 7));
         due("the second", 1, x.tie(0, 0, 7, 0));
         x.undo();
@@ -302,8 +315,7 @@ public final class ActBoundsTest {
             refusedPlay(Twins.MIDWAY, NONE, 2, gate, 0);
         }
         for (int gate : new int[] {0, 1, 99998, 99999}) {
-            CupPot x = new CupPot();
-            Twins.MIDWAY.on(x);
+            CupPot x = Twins.made(Twins.MIDWAY);
             due("play(2, " + gate + ", 0)", 2, x.play(2, gate, 0));
             due("GATE", gate, x.game(2, 1, 0));
         }
@@ -320,13 +332,11 @@ public final class ActBoundsTest {
             for (int next = 0; next < 3; next++) {
                 refusedPlay(before, NOT_NOW, 0, 10, next);
             }
-            CupPot x = new CupPot();
-            before.on(x);
+            CupPot x = Twins.made(before);
             due("the club that WON", 3 + won, x.tieOf(0, 5));
             due("DECIDED", 1, x.count(4));
         }
-        CupPot x = new CupPot();
-        eightClubs().on(x);
+        CupPot x = Twins.made(eightClubs());
         x.tie(0, 0, 3, 4);
         due("no GAME: not DECIDED", NOT_NOW, x.tieOf(0, 5));
         x.play(0, 10, 2);
@@ -346,16 +356,14 @@ public final class ActBoundsTest {
             });
             refusedPlay(before, NOT_NOW, 0, 50, 2);
             for (int won = 0; won < 2; won++) {
-                CupPot x = new CupPot();
-                before.on(x);
+                CupPot x = Twins.made(before);
                 due("won, GAME " + replays, replays + 1, x.play(0, 50, won));
                 due("none behind it", NOT_NOW, x.play(0, 50, won));
                 due("so many GAMES", replays + 1, x.tieOf(0, 4));
             }
         }
         // REPLAYS are those of the TIE's CUP
-        CupPot x = new CupPot();
-        booked("club 0 0 0;club 0 0 0;cup 0 0 100 replays 0;cup 0 0 100 replays 3;cup 0 0 100").on(x);
+        CupPot x = Twins.made(booked("club 0 0 0;club 0 0 0;cup 0 0 100 replays 0;cup 0 0 100 replays 3;cup 0 0 100"));
         for (int cup = 0; cup < 3; cup++) {
             x.tie(cup, 0, 0, 1);
         }
@@ -370,8 +378,7 @@ public final class ActBoundsTest {
 
     private static void hosts() {
         Check.says("HOST of GAME 0 is the FIRST, of each other one the GUEST of the one ahead");
-        CupPot x = new CupPot();
-        booked("club 0 0 0;".repeat(5) + "cup 0 0 100 replays 3").on(x);
+        CupPot x = Twins.made(booked("club 0 0 0;".repeat(5) + "cup 0 0 100 replays 3"));
         x.tie(0, 0, 4, 2);
         int[] want = {4, 2, 4, 2};
         for (int game = 0; game < 4; game++) {
@@ -384,8 +391,7 @@ public final class ActBoundsTest {
 
     private static void howManyGames() {
         Check.says("won 0 by the FIRST, 1 by the SECOND, 2 drawn: how many GAMES the TIE has then.");
-        CupPot x = new CupPot();
-        Twins.MIDWAY.on(x);
+        CupPot x = Twins.made(Twins.MIDWAY);
         due("TIE 2 had 1", 2, x.play(2, 7, 0));
         due("who won it", 0, x.game(2, 1, 9));
         x.undo();
@@ -437,8 +443,7 @@ public final class ActBoundsTest {
                 }
             });
             refusedClose(but, NOT_NOW, 0, 0);
-            CupPot x = new CupPot();
-            but.on(x);
+            CupPot x = Twins.made(but);
             x.play(open, 3, 1);
             due("all are DECIDED; another CUP's is not", (90 + 3) / 3, x.close(0, 0));
             due("another CUP's", NOT_NOW, x.close(1, 0));
@@ -449,8 +454,7 @@ public final class ActBoundsTest {
         Check.says("and it is not yet");
         refusedClose(Twins.MIDWAY, NOT_NOW, 0, 0);
         refusedClose(fourWinners(), NOT_NOW, 0, 0);
-        CupPot x = new CupPot();
-        fourWinners().on(x);
+        CupPot x = Twins.made(fourWinners());
         x.undo();
         due("undone, and CLOSED again", (10 + 11 + 12 + 13) / 4, x.close(0, 0));
         due("twice", NOT_NOW, x.close(0, 0));
@@ -487,8 +491,7 @@ public final class ActBoundsTest {
     private static void latestTwelve() {
         Check.says("the latest 12 can be undone");
         for (int acts = 0; acts <= 26; acts++) {
-            CupPot x = new CupPot();
-            Twins.BOOKED.on(x);
+            CupPot x = Twins.made(Twins.BOOKED);
             x.keep(0);
             for (int i = 1; i <= acts; i++) {
                 x.again(0);
@@ -506,8 +509,7 @@ public final class ActBoundsTest {
     private static void theOldestGivesWay() {
         Check.says("the latest 12 can be undone");
         for (int acts = 12; acts <= 18; acts++) {
-            CupPot x = new CupPot();
-            booked("club 0 0 0;".repeat(12) + FOUR_CUPS).on(x);
+            CupPot x = Twins.made(booked("club 0 0 0;".repeat(12) + FOUR_CUPS));
             for (int i = 0; i < acts; i++) {
                 x.tie(i / 6, 0, i % 6, 11 - i % 6);
             }
@@ -522,8 +524,7 @@ public final class ActBoundsTest {
 
     private static void undoAndGoOn() {
         Check.says("the latest 12 can be undone");
-        CupPot x = new CupPot();
-        booked("club 0 0 0;".repeat(12) + FOUR_CUPS).on(x);
+        CupPot x = Twins.made(booked("club 0 0 0;".repeat(12) + FOUR_CUPS));
         for (int turn = 0; turn < 3; turn++) {
             for (int i = x.count(2); i < 20; i++) {
                 x.tie(i / 6, 0, i % 6, 11 - i % 6);
@@ -552,8 +553,7 @@ public final class ActBoundsTest {
         for (int k = 0; k < 2; k++) {
             int under = k;
             Twins.leavesAll("keep(" + k + ") without a BOOK", 0, Twins.TOLD, x -> asNumber(x.keep(under)));
-            CupPot x = new CupPot();
-            Twins.BOOKED.on(x);
+            CupPot x = Twins.made(Twins.BOOKED);
             due("keep(" + k + ")", 1, asNumber(x.keep(k)));
             due("again(other)", 0, asNumber(x.again(1 - k)));
             due("again(" + k + ")", 1, asNumber(x.again(k)));
@@ -565,8 +565,7 @@ public final class ActBoundsTest {
         // kept once more as it is kept already: nothing changes
         Twins.Step kept = Twins.then(Twins.MIDWAY, x -> x.keep(1));
         Twins.leavesAll("keep(1)", 1, kept, x -> asNumber(x.keep(1)));
-        CupPot x = new CupPot();
-        Twins.MIDWAY.on(x);
+        CupPot x = Twins.made(Twins.MIDWAY);
         due("acts", 8, x.count(6));
         x.keep(0);
         due("as many acts", 8, x.count(6));
@@ -594,8 +593,7 @@ public final class ActBoundsTest {
 
     private static void againIsAnAct() {
         Check.says("Act: they are as they were kept: true");
-        CupPot x = new CupPot();
-        Twins.BOOKED.on(x);
+        CupPot x = Twins.made(Twins.BOOKED);
         x.keep(0);
         due("again(0), though nothing changes by it", 1, asNumber(x.again(0)));
         due("an act", 1, x.count(6));
@@ -630,8 +628,7 @@ public final class ActBoundsTest {
             }
         };
         Twins.alike("kept and by undo()", Twins.then(fresh, same), Twins.then(again, same));
-        CupPot x = new CupPot();
-        Twins.MIDWAY.on(x);
+        CupPot x = Twins.made(Twins.MIDWAY);
         due("CLOSED", 1, x.count(5));
         x.again(1);
         due("not CLOSED when kept", 0, x.count(5));
@@ -643,5 +640,67 @@ public final class ActBoundsTest {
         x.again(0);
         due("TIES when kept first", 1, x.count(2));
         due("GAMES when kept first", 0, x.count(3));
+    }
+
+    private static void againOfOtherTies() {
+        Check.says("Act: they are as they were kept: true");
+        String one = "tie 0 0 0 1;play 0 1000 drawn;play 0 500 first;tie 0 0 2 3;play 1 77 second;close 0 0;tie 0 1 0 3";
+        String other = "tie 1 0 3 2;play 0 60 second;tie 1 0 1 0;play 1 2000 drawn;play 1 90 second;tie 0 0 3 1;play 2 400 first";
+        // whatever was there meanwhile: the first ones by again(0), the others by again(1), or undone
+        Twins.Step first = kept(one, other, x -> x.again(0));
+        Twins.Step second = kept(one, other, x -> x.again(1));
+        Twins.alike("again(0)", Twins.then(doneAlone(one), fill()), Twins.then(first, fill()));
+        Twins.alike("again(1)", Twins.then(doneAlone(other), fill()), Twins.then(second, fill()));
+        Twins.alike("again(0), then again(1)", Twins.then(doneAlone(other), fill()),
+            Twins.then(kept(one, other, x -> {
+                x.again(0);
+                x.again(1);
+            }), fill()));
+        Twins.alike("again(0) undone", Twins.then(doneAlone(other), fill()),
+            Twins.then(kept(one, other, x -> {
+                x.again(0);
+                x.undo();
+            }), fill()));
+        Twins.alike("DEEDS undone", Twins.then(doneAlone(one), fill()), Twins.then(doneAlone(one), x -> {
+            x.keep(1);
+            x.again(0);
+            Check.deeds(x, other);
+            Twins.undoAll(x, 2);
+            fill().on(x);
+        }));
+    }
+
+    /** The one DEEDS are kept under 0 and undone, the others done and kept under 1. */
+    private static Twins.Step kept(String one, String other, Twins.Step then) {
+        return x -> {
+            Check.tell(x, Twins.MIDWAY_BOOK);
+            x.book();
+            Check.deeds(x, one);
+            x.keep(0);
+            x.undo();
+            Check.deeds(x, other);
+            x.keep(1);
+            then.on(x);
+        };
+    }
+
+    private static Twins.Step doneAlone(String text) {
+        return x -> {
+            Check.tell(x, Twins.MIDWAY_BOOK);
+            x.book();
+            x.keep(0);
+            due("deeds()", 7, Check.deeds(x, text));
+        };
+    }
+
+    /** Makes all that can be undone or is kept alike, so that what is there counts alone. */
+    private static Twins.Step fill() {
+        return x -> {
+            x.keep(0);
+            x.keep(1);
+            for (int i = 0; i < 12; i++) {
+                x.again(0);
+            }
+        };
     }
 }

@@ -29,12 +29,14 @@ public final class BookBoundsTest {
         placeOfTheEnd();
         ofOneTokenTheLeast();
         whatCantStandThere();
+        eachLetterOfAWord();
         tooManyAtTheWord();
         tooFewAtTheEnd();
         howManyLines();
         faultLeavesAll();
         tapeIsEmpty();
         bookLeavesNone();
+        bookLeavesNoOptions();
         Check.finish("BookBoundsTest");
     }
 
@@ -355,6 +357,28 @@ public final class BookBoundsTest {
         }
     }
 
+    private static void eachLetterOfAWord() {
+        Check.says("words (rows of letters a .. z)");
+        String[] words = {"club", "cup", "way", "first", "floor", "replays", "again", "neutral", "odd"};
+        for (int i = 0; i < words.length; i++) {
+            String ahead = i < 3 ? TWO : TWO + "cup 1 1 98 ";
+            for (int at = 0; at < words[i].length(); at++) {
+                String start = words[i].substring(0, at);
+                String rest = words[i].substring(at + 1);
+                Check.bookFault(ahead + "|" + start + (words[i].charAt(at) == 'x' ? 'y' : 'x') + rest, 1);
+                // one letter less, one more
+                Check.bookFault(ahead + "|" + start + rest, 1);
+                Check.bookFault(ahead + "|" + start + words[i].charAt(at) + words[i].substring(at), 1);
+            }
+        }
+        for (String word : new String[] {"tie", "play", "close"}) {
+            for (int at = 0; at < word.length(); at++) {
+                String marred = word.substring(0, at) + "x" + word.substring(at + 1);
+                Check.deedsFault(TWO + "cup 1 1 98", "|" + marred + " 0 0 0 1", 1);
+            }
+        }
+    }
+
     private static void tooManyAtTheWord() {
         Check.says("3 (BOOK) a 13th club, a 5th cup (at the word)");
         String fourCups = "cup 1 1 98;".repeat(4);
@@ -415,6 +439,29 @@ public final class BookBoundsTest {
         due("place", 0, x.fault(1));
     }
 
+    private static void bookLeavesNoOptions() {
+        Check.says("FIRST 0 .. 2 (0); FLOOR 0 .. 99999 (0); REPLAYS 0 .. 3 (1); PARTS of replays (as told for others, if not told); "
+            + "NEUTRAL 1 .. 6 (6); ODD 0 .. 2 (0); of each ROUND 0 .. 5 a WAY 0 .. 3 (0 at first).");
+        String told = "cup 1 1 98 first 2 floor 9 replays 3 again 2 2 96 neutral 1 odd 2";
+        String all = TWO + told + ";" + told + ";" + told + ";" + told + ";way 0 0 1;way 1 5 2;way 2 3 3;way 3 0 3";
+        int[] usual = {5, 15, 80, 0, 0, 1, 5, 15, 80, 6, 0, 0, 0, 0};
+        for (String end : new String[] {"", ";oops"}) {
+            CupPot x = new CupPot();
+            Check.tell(x, all + end);
+            due("book()", end.isEmpty() ? 10 : NONE, x.book());
+            Check.tell(x, TWO + "cup 5 15 80;".repeat(3) + "cup 5 15 80");
+            due("book()", 6, x.book());
+            for (int cup = 0; cup < 4; cup++) {
+                for (int what = 0; what < usual.length; what++) {
+                    due("cup(" + cup + ", " + what + ")", usual[what], x.cup(cup, what));
+                }
+                for (int round = 0; round < 6; round++) {
+                    due("WAY of " + cup + ", " + round, 0, x.pool(cup, round, 5));
+                }
+            }
+        }
+    }
+
     private static void bookLeavesNone() {
         Check.says("a BOOK leaves none, nothing kept, no TIES");
         for (String text : new String[] {Twins.SMALL_BOOK, Twins.MIDWAY_BOOK}) {
@@ -427,8 +474,7 @@ public final class BookBoundsTest {
             Twins.alike("a BOOK behind another one", book, Twins.then(Twins.MIDWAY, book));
             Twins.alike("a BOOK behind a FAULT", book, Twins.then(Twins.FAULTY, book));
         }
-        CupPot x = new CupPot();
-        Twins.MIDWAY.on(x);
+        CupPot x = Twins.made(Twins.MIDWAY);
         x.end(0);
         Check.tell(x, Twins.MIDWAY_BOOK);
         due("book()", 8, x.book());

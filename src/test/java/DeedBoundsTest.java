@@ -14,6 +14,7 @@ public final class DeedBoundsTest {
         readAhead();
         upToTheFirstThatCantBe();
         upToTheFirstThatIsNone();
+        theTapesAlone();
         asByHand();
         noneDoneIsNoAct();
         oneActTogether();
@@ -63,6 +64,10 @@ public final class DeedBoundsTest {
         }
         due("GATE", 77, x.game(0, 0, 0));
         due("CLOSED", 1, x.pool(1, 0, 4));
+        due("a DEED of ROUND 1", 5, Check.deeds(x, "tie 0 0 0 1;tie 0 0 2 3;play 1 5 first;play 2 6 second;close 0 0"));
+        due("a DEED of ROUND 1", 3, Check.deeds(x, "tie 0 1 3 0;play 3 7 second;close 0 1"));
+        due("CLOSED", 1, x.pool(0, 1, 4));
+        due("CLOSED in all", 3, x.count(5));
         String[] short1 = {"tie|", "tie 0|", "tie 0 0|", "tie 0 0 0|", "play|", "play 0|", "play 0 0|", "close|", "close 0|"};
         for (String text : short1) {
             fault(text, 1);
@@ -82,6 +87,15 @@ public final class DeedBoundsTest {
             due("game(0, 0, 9)", won, x.game(0, 0, 9));
             // the GATE may stand close to it
             due("game(0, 0, 9)", won, done("tie 0 0 0 1;play 0 5" + words[won], 2).game(0, 0, 9));
+        }
+        // behind each other in the same place of a text
+        for (int before = 0; before < 3; before++) {
+            for (int won = 0; won < 3; won++) {
+                CupPot x = done("tie 0 0 0 1;tie 1 0 0 1", 2);
+                due("deeds()", 1, Check.deeds(x, "play 0 5 " + words[before]));
+                due("deeds()", 1, Check.deeds(x, "play 1 5 " + words[won]));
+                due(words[won] + " behind " + words[before], won, x.game(1, 0, 9));
+            }
         }
         for (String other : new String[] {"0", "1", "2", "firs", "firsts", "draw", "third", "First", "floor", "play", ";", "-"}) {
             fault("tie 0 0 0 1;play 0 5 |" + other, 1);
@@ -139,7 +153,7 @@ public final class DeedBoundsTest {
     }
 
     private static void readAhead() {
-        Check.says("all are read ahead");
+        Check.says("or is -1: how many. NONE: a FAULT");
         String[] texts = {"tie 1 1 0 1;", "tie 0 1 0 3;close 0", "tie 0 1 0 3;play 3 5 first;close 0 123456", "undo", ""};
         for (String text : texts) {
             for (Twins.Step before : new Twins.Step[] {Twins.TOLD, Twins.BOOKED, Twins.MIDWAY}) {
@@ -172,6 +186,22 @@ public final class DeedBoundsTest {
         due("games", 0, x.count(3));
         x = done("tie 0 0 0 1;play 0 5 first;close 2 0;close 0 0", 2);
         due("nothing CLOSED", 0, x.count(5));
+    }
+
+    private static void theTapesAlone() {
+        Check.says("THE TAPE (empty then) is DEEDS: all are read ahead; then they are done");
+        // a longer text ahead of it, of which the rest could be done again
+        CupPot x = done("tie 0 0 0 1;tie 1 0 0 1;tie 1 0 2 3;play 0 5 first;close 0 0", 5);
+        x.undo();
+        due("one DEED", 1, Check.deeds(x, "tie 0 0 0 1"));
+        due("one TIE", 1, x.count(2));
+        due("three DEEDS", 3, Check.deeds(x, "tie 1 0 2 3;tie 1 0 0 1;tie 0 0 2 3"));
+        due("no GAME", 0, x.count(3));
+        due("nothing CLOSED", 0, x.count(5));
+        // one with a FAULT behind DEEDS that could be done
+        due("a FAULT", NONE, Check.deeds(x, "play 0 5 first;close 0 0;x"));
+        due("one DEED", 1, Check.deeds(x, "play 1 6 first"));
+        due("one GAME", 1, x.count(3));
     }
 
     private static void asByHand() {

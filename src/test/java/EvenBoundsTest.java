@@ -11,11 +11,13 @@ public final class EvenBoundsTest {
     public static void main(String[] args) {
         balanceWithin();
         balanceOfNoneSuch();
+        heldByTheHost();
         thePotIsBehindTheLast();
         fewestWithin();
         fewestOthers();
         allAreEven();
         sixGroups();
+        groupsOfAnyPairs();
         oneGroupOfThirteen();
         groupsWithThePot();
         paysWithin();
@@ -52,8 +54,7 @@ public final class EvenBoundsTest {
             Twins.leavesAll("balance(" + who + ")", 0, Twins.BOOKED, x -> x.balance(w));
         }
         // the POOL ahead of its closing: 108
-        CupPot x = new CupPot();
-        Twins.MIDWAY.on(x);
+        CupPot x = Twins.made(Twins.MIDWAY);
         Twins.undoAll(x, 3);
         balances(x, 547 - 1000, 495 - 150, -333, 333, 108);
     }
@@ -68,6 +69,22 @@ public final class EvenBoundsTest {
             int who = n;
             Twins.leavesAll("balance(" + n + "), no BOOK", LOWEST, Twins.TOLD, x -> x.balance(who));
         }
+    }
+
+    private static void heldByTheHost() {
+        Check.says("HELD: the HOST of each GAME holds its GATE: BALANCE of a club: what it HAS less all GATES that it holds");
+        CupPot x = Check.withBook(clubs(2) + "cup 0 0 100 replays 3");
+        x.tie(0, 0, 1, 0);
+        balances(x, 0, 0, 0);
+        int[][] rows = {{0, -1, 1}, {-10, -1, 11}, {-10, -101, 111}, {-1010, -101, 1111}};
+        int gate = 1;
+        for (int game = 0; game < 4; game++) {
+            x.play(0, gate, game < 3 ? 2 : 0);
+            balances(x, rows[game]);
+            gate *= 10;
+        }
+        x.close(0, 0);
+        balances(x, -1010, 1111 - 101, 0);
     }
 
     private static void thePotIsBehindTheLast() {
@@ -136,6 +153,41 @@ public final class EvenBoundsTest {
         }
         due("groups of like ones", 6, x.fewest(1));
         due("payments of like ones", 6, x.fewest(0));
+    }
+
+    private static void groupsOfAnyPairs() {
+        Check.says("the most groups in which these can be parted so that each comes to 0");
+        // who are paired: neighbours, at both ends, half of all apart, and turned about
+        int[][] orders = {{0, 1, 2, 3, 4, 5, 6, 7, 8, 9, 10, 11}, {1, 0, 3, 2, 5, 4, 7, 6, 9, 8, 11, 10},
+            {0, 6, 1, 7, 2, 8, 3, 9, 4, 10, 5, 11}, {11, 0, 1, 10, 9, 2, 3, 8, 7, 4, 5, 6}};
+        for (int[] order : orders) {
+            for (int pairs = 2; pairs <= 6; pairs++) {
+                CupPot x = Check.withBook(clubs(12) + "cup 0 100 0");
+                for (int i = 0; i < pairs; i++) {
+                    x.tie(0, 0, order[2 * i], order[2 * i + 1]);
+                    x.play(i, 1 << 2 * i, 0);
+                }
+                due("groups of " + pairs + " pairs", pairs, x.fewest(1));
+                due("payments of " + pairs + " pairs", pairs, x.fewest(0));
+                due("a second time", pairs, x.fewest(1));
+            }
+        }
+        // three of 2, 1 and -3 at each end of the row and between others: -3 2 1 | -30 20 10 | -300 200 100
+        int[][] threes = {{0, 1, 2}, {3, 4, 5}, {6, 7, 8}, {9, 10, 11}};
+        for (int turn = 0; turn < 3; turn++) {
+            CupPot x = Check.withBook(clubs(12) + "cup 0 100 0;cup 0 100 0");
+            int amount = 1;
+            for (int t = 0; t < 4; t++) {
+                int host = threes[t][turn];
+                x.tie(0, 0, host, threes[t][(turn + 1) % 3]);
+                x.play(2 * t, 2 * amount, 0);
+                x.tie(1, 0, host, threes[t][(turn + 2) % 3]);
+                x.play(2 * t + 1, amount, 0);
+                amount *= 10;
+                due("groups of " + (t + 1) + " threes", t + 1, x.fewest(1));
+                due("payments of " + (t + 1) + " threes", 2 * (t + 1), x.fewest(0));
+            }
+        }
     }
 
     private static void oneGroupOfThirteen() {
@@ -297,8 +349,7 @@ public final class EvenBoundsTest {
             x.play(0, 99999, 0);
             due("mark() of " + n + ", the last lacks", markOf(x), x.mark());
         }
-        CupPot x = new CupPot();
-        Twins.MIDWAY.on(x);
+        CupPot x = Twins.made(Twins.MIDWAY);
         due("mark()", markOf(x), x.mark());
         Twins.leavesAll("mark()", markOf(x), Twins.MIDWAY, y -> y.mark());
         // by hand: 527; 16337 ^ 1; 506416 ^ 61

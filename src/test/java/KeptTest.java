@@ -25,6 +25,7 @@ public final class KeptTest {
         topped(118, 0, 30, 0, 50, 30, 7, 1);
         topped(1000, 200, 30, 0, 50, 30, 7, 1);
         keptTogether();
+        allTwelveLack();
         carriedOn();
         Check.finish("KeptTest");
     }
@@ -94,6 +95,29 @@ public final class KeptTest {
         Check.due("one CUP's is not KEPT any more", 1, x.all(5));
         Check.due("club(6, 9)", 1, x.club(6, 9));
         Check.due("club(5, 9)", 0, x.club(5, 9));
+    }
+
+    private static void allTwelveLack() throws ReflectiveOperationException {
+        Check.says("those that LACK least first (above 0; of like ones the least), each as much as it LACKS, as far as that goes");
+        // 12 clubs that LACK 12, 11 .. 1: 78 together
+        int[] sums = {0, 1, 2, 3, 5, 6, 7, 66, 67, 77, 78, 79};
+        for (int kept : sums) {
+            StringBuilder book = new StringBuilder();
+            for (int guard = 12; guard >= 1; guard--) {
+                book.append("club 0 0 ").append(guard).append(';');
+            }
+            CupPot x = Check.withBook(book + "cup 0 0 100;way 0 5 3");
+            x.tie(0, 0, 0, 1);
+            x.play(0, kept, 0);
+            Arrays.fill((int[]) field(field(x, "season"), "rounds"), 5);
+            x.close(0, 5);
+            int left = kept;
+            for (int club = 11; club >= 0; club--) {
+                int topped = Math.min(left, 12 - club);
+                Check.due("club(" + club + ", 9), kept " + kept, topped, x.club(club, 9));
+                left -= topped;
+            }
+        }
     }
 
     private static void carriedOn() throws ReflectiveOperationException {

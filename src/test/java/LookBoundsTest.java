@@ -7,6 +7,7 @@ public final class LookBoundsTest {
     public static void main(String[] args) {
         clubWithin();
         clubOthers();
+        has();
         lacks();
         toppedByNothing();
         cupWithin();
@@ -30,12 +31,6 @@ public final class LookBoundsTest {
         Check.due(call, want, got);
     }
 
-    private static CupPot midway() {
-        CupPot x = new CupPot();
-        Twins.MIDWAY.on(x);
-        return x;
-    }
-
     private static void clubWithin() {
         Check.says("Of a club 0 COST, 1 FARE, 2 GUARD, 3 HAS, 4 of that EXPENSES, 5 SHARES as HOST, 6 as GUEST, "
             + "7 of POOLS, 8 LACKS, 9 TOPPED, 10 GAMES, 11 TIES that it WON.");
@@ -44,7 +39,7 @@ public final class LookBoundsTest {
             {30, 5, 50, 522, 5 + 30, 60, 400, 27, 0, 0, 2, 0},
             {0, 7, 0, 27, 0, 0, 0, 27, 0, 0, 1, 0},
             {4, 4, 1000, 364, 4 + 4, 0, 329, 27, 636, 0, 2, 1}};
-        CupPot x = midway();
+        CupPot x = Twins.made(Twins.MIDWAY);
         for (int club = 0; club < 4; club++) {
             for (int what = 0; what < 12; what++) {
                 due("club(" + club + ", " + what + ")", rows[club][what], x.club(club, what));
@@ -72,6 +67,28 @@ public final class LookBoundsTest {
         }
     }
 
+    private static void has() {
+        Check.says("A club HAS: its EXPENSES, SHARES, what it got of POOLS.");
+        CupPot x = Check.withBook("club 10 5 0;club 10 5 0;cup 50 20 30;cup 50 20 30");
+        due("nothing yet", 0, x.club(0, 3));
+        x.tie(0, 0, 0, 1);
+        due("a TIE without a GAME", 0, x.club(0, 3));
+        x.play(0, 0, 2);
+        due("a GATE of 0", 0, x.club(0, 3));
+        due("a GAME it is", 1, x.club(0, 10));
+        x.play(0, 115, 1);
+        due("as GUEST", 5 + 20, x.club(0, 3));
+        due("as HOST", 10 + 50, x.club(1, 3));
+        x.close(0, 0);
+        due("nothing of the POOL", 5 + 20, x.club(0, 3));
+        due("the whole POOL", 10 + 50 + 30, x.club(1, 3));
+        // of all CUPS together
+        x.tie(1, 0, 1, 0);
+        x.play(1, 115, 1);
+        due("of both CUPS", 25 + 25, x.club(0, 3));
+        due("of both CUPS", 90 + 60, x.club(1, 3));
+    }
+
     private static void lacks() {
         Check.says("It LACKS what it HAS less than GUARD.");
         int[][] rows = {{0, 0}, {1, 0}, {99, 0}, {100, 0}, {101, 1}, {99999, 99899}};
@@ -88,7 +105,7 @@ public final class LookBoundsTest {
 
     private static void toppedByNothing() {
         Check.says("TOPPED: of all that CUPS KEPT together");
-        CupPot x = midway();
+        CupPot x = Twins.made(Twins.MIDWAY);
         due("nothing is KEPT", 0, x.all(5));
         for (int club = 0; club < 4; club++) {
             due("nobody is TOPPED", 0, x.club(club, 9));
@@ -101,7 +118,7 @@ public final class LookBoundsTest {
         int[][] rows = {
             {60, 30, 10, 0, 400, 1, 60, 30, 10, 1, 0, 0, 1483, 2},
             {50, 25, 25, 2, 0, 1, 20, 60, 20, 6, 2, 0, 21, 1}};
-        CupPot x = midway();
+        CupPot x = Twins.made(Twins.MIDWAY);
         for (int cup = 0; cup < 2; cup++) {
             for (int what = 0; what < 14; what++) {
                 int c = cup;
@@ -134,7 +151,7 @@ public final class LookBoundsTest {
             {0, 0, 2, 3, 1, 3, 333, 0, 4 + 329, 0},
             {1, 0, 3, 0, 1, NOT_NOW, 21, 4, 17, 0},
             {0, 1, 3, 0, 0, NOT_NOW, 0, 0, 0, 0}};
-        CupPot x = midway();
+        CupPot x = Twins.made(Twins.MIDWAY);
         x.tie(0, 1, 3, 0);
         for (int tie = 0; tie < 4; tie++) {
             for (int what = 0; what < 10; what++) {
@@ -160,7 +177,7 @@ public final class LookBoundsTest {
         }
         Twins.leavesAll("tieOf(0, 0), no TIES", NONE, Twins.BOOKED, x -> x.tieOf(0, 0));
         // a TIE that was undone is none
-        CupPot x = midway();
+        CupPot x = Twins.made(Twins.MIDWAY);
         Twins.undoAll(x, 2);
         due("tieOf(2, 0), undone", NONE, x.tieOf(2, 0));
         due("tieOf(1, 0)", 0, x.tieOf(1, 0));
@@ -204,7 +221,7 @@ public final class LookBoundsTest {
         Twins.Step noGame = Twins.then(Twins.BOOKED, x -> x.tie(0, 0, 0, 1));
         Twins.leavesAll("game(0, 0, 0), no GAMES", NONE, noGame, x -> x.game(0, 0, 0));
         // a GAME that was undone is none, though another TIE has as many
-        CupPot x = midway();
+        CupPot x = Twins.made(Twins.MIDWAY);
         x.undo();
         due("game(2, 0, 0), undone", NONE, x.game(2, 0, 0));
         due("game(1, 0, 0)", 333, x.game(1, 0, 0));
@@ -215,7 +232,7 @@ public final class LookBoundsTest {
             + "3 how many did, 4 whether it is CLOSED (1, 0), 5 its WAY, 6 TIES of the ROUND.");
         int[] closed = {108, 0, 27, 4, 1, 1, 2};
         int[] open = {0, 0, 0, 0, 0, 3, 1};
-        CupPot x = midway();
+        CupPot x = Twins.made(Twins.MIDWAY);
         for (int cup = 0; cup < 2; cup++) {
             for (int round = 0; round < 6; round++) {
                 for (int what = 0; what < 7; what++) {
@@ -314,7 +331,7 @@ public final class LookBoundsTest {
             Twins.leavesAll("count(" + what + ")", want[what], Twins.MIDWAY, x -> x.count(w));
             Twins.leavesAll("count(" + what + ")", booked[what], Twins.BOOKED, x -> x.count(w));
         }
-        CupPot x = midway();
+        CupPot x = Twins.made(Twins.MIDWAY);
         x.play(2, 5, 0);
         x.close(1, 0);
         due("DECIDED", 3, x.count(4));

@@ -4,6 +4,7 @@ public final class SplitBoundsTest {
     private static final int GREATEST = 99999;
 
     public static void main(String[] args) {
+        dueOfHostAndGuest();
         hostFirst();
         guestFirst();
         byBoth();
@@ -45,6 +46,21 @@ public final class SplitBoundsTest {
     }
 
     // ---- EXPENSES
+
+    private static void dueOfHostAndGuest() {
+        Check.says("A GAME: DUE of the HOST: COST, of the GUEST: FARE");
+        CupPot x = Check.withBook("club 1 20 0;club 300 4000 0;cup 100 0 0 replays 3");
+        x.tie(0, 0, 1, 0);
+        for (int game = 0; game < 4; game++) {
+            x.play(0, 5000, game < 3 ? 2 : 0);
+            boolean atHome = game % 2 == 0;
+            row(x, "GAME " + game, 0, game, atHome ? 300 : 1, atHome ? 20 : 4000, atHome ? 4680 : 999);
+        }
+        Check.says("REST: GATE less EXPENSES");
+        for (int gate : new int[] {0, 1, 319, 320, 321, GREATEST}) {
+            game("100 0 0", 300, 20, gate, Math.min(gate, 300), Math.max(0, Math.min(gate - 300, 20)), Math.max(0, gate - 320));
+        }
+    }
 
     private static void hostFirst() {
         Check.says("0: the HOST's DUE, as far as GATE goes, then the GUEST's");
@@ -96,7 +112,7 @@ public final class SplitBoundsTest {
     }
 
     private static void greatestDue() {
-        Check.says("COST 0 .. 9999, FARE 0 .. 9999, GATE 0 .. 99999");
+        Check.says("COST 0 .. 9999, FARE 0 .. 9999, GUARD 0 .. 99999");
         int[] hosts = {9999, 9998, 9999};
         for (int first = 0; first < 3; first++) {
             String cup = "60 30 10 first " + first;

@@ -33,6 +33,7 @@ final class Twins {
         Check.tell(x, MIDWAY_BOOK);
         x.book();
         Check.tell(x, "tie 0 0 2 3");
+        x.mark();
     };
 
     /** Two TIES of a ROUND that is CLOSED, one of another CUP; 8 acts; both kept; DEEDS on THE TAPE. */
@@ -50,6 +51,8 @@ final class Twins {
         x.tie(1, 0, 3, 0);
         x.play(2, 21, 2);
         Check.tell(x, "tie 0 1 0 3");
+        // all sums are asked for, so that what comes later can't go by old ones unseen
+        x.mark();
     };
 
     private static final Step[] LATER = {
@@ -99,6 +102,12 @@ final class Twins {
         });
     }
 
+    static CupPot made(Step way) {
+        CupPot x = new CupPot();
+        way.on(x);
+        return x;
+    }
+
     static Step then(Step one, Step other) {
         return x -> {
             one.on(x);
@@ -120,9 +129,6 @@ final class Twins {
     }
 
     private static Picture taken(Step way, Step later, int page) {
-        CupPot x = new CupPot();
-        way.on(x);
-        later.on(x);
-        return new Picture(x, page);
+        return new Picture(made(then(way, later)), page);
     }
 }

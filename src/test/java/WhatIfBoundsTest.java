@@ -13,6 +13,8 @@ public final class WhatIfBoundsTest {
         bringsOthers();
         leastWithin();
         leastByTrying();
+        leastWithMuchDue();
+        leastWhateverWasLookedAt();
         leastOfNone();
         leastOthers();
         byCupWithin();
@@ -35,12 +37,6 @@ public final class WhatIfBoundsTest {
         Check.due(call, want, got);
     }
 
-    private static CupPot midway() {
-        CupPot x = new CupPot();
-        Twins.MIDWAY.on(x);
-        return x;
-    }
-
     // ---- brings
 
     private static void brings(Twins.Step before, int tie, int gate, int... want) {
@@ -51,7 +47,7 @@ public final class WhatIfBoundsTest {
     }
 
     private static void bringsWithin() {
-        Check.says("What a GAME would bring, played next in a TIE with a GATE (0 .. 99999");
+        Check.says("what 0 EXPENSES and SHARE of the FIRST, 1 of the SECOND, 2 SHARE of the POOL.");
         brings(Twins.MIDWAY, 2, 0, 0, 0, 0);
         brings(Twins.MIDWAY, 2, 1, 0, 1, 0);
         // 13 by 14: 3 and 9, 1 is left
@@ -65,7 +61,7 @@ public final class WhatIfBoundsTest {
     }
 
     private static void bringsDecidedOrNot() {
-        Check.says("whether DECIDED or not");
+        Check.says("What a GAME would bring, played next in a TIE with a GATE (0 .. 99999; whether DECIDED or not, however many there were)");
         // TIE 0 is DECIDED by two GAMES: the third is at home with 0, by 60 30 10, without a FLOOR
         brings(Twins.MIDWAY, 0, 115, 10 + 60, 5 + 30, 10);
         // TIE 1 by one: at home with 3, 4 and 7
@@ -159,6 +155,35 @@ public final class WhatIfBoundsTest {
         }
     }
 
+    private static void leastWithMuchDue() {
+        Check.says("The least GATE (0 .. 99999) by which brings() tells n or more");
+        CupPot x = Check.withBook("club 9999 1 0;club 1 9999 0;cup 100 0 0");
+        x.tie(0, 0, 0, 1);
+        // of 9999 at once, of more when the GUEST has 9999, too
+        int[][] rows = {{9998, 9998}, {9999, 9999}, {10000, 19999}, {10001, 20000}, {85000, 94999}, {89999, 99998}, {90000, GREATEST}};
+        for (int[] r : rows) {
+            due("least(0, " + r[0] + ", 0)", r[1], x.least(0, r[0], 0));
+        }
+        due("1 more than there can be", NOT_NOW, x.least(0, 90001, 0));
+        due("the first of the GUEST", 10000, x.least(0, 1, 1));
+        due("the last of the GUEST", 19998, x.least(0, 9999, 1));
+        due("1 more than there can be", NOT_NOW, x.least(0, 10000, 1));
+    }
+
+    private static void leastWhateverWasLookedAt() {
+        Check.says("The least GATE (0 .. 99999) by which brings() tells n or more");
+        // nothing is DUE in TIE 0, 30 in TIE 1; the HOST has what is left, 1 of 1
+        CupPot x = Check.withBook("club 0 0 0;club 0 0 0;club 10 20 0;club 10 20 0;cup 0 50 50");
+        x.tie(0, 0, 0, 1);
+        x.tie(0, 0, 2, 3);
+        for (int turn = 0; turn < 2; turn++) {
+            x.brings(1, 100, 0);
+            due("least(0, 1, 0)", 1, x.least(0, 1, 0));
+            x.brings(0, 100, 0);
+            due("least(1, 11, 0)", 31, x.least(1, 11, 0));
+        }
+    }
+
     private static void leastOfNone() {
         Check.says("-2: none.");
         least(2, 4 + 59992, 0, NOT_NOW);
@@ -216,7 +241,7 @@ public final class WhatIfBoundsTest {
         byCup(2, 0, 4, 17, 0);
         // 329 by 50 25 25: 164, 82, 82, 1 left to the POOL
         byCup(1, 1, 164, 4 + 82, 83);
-        CupPot x = midway();
+        CupPot x = Twins.made(Twins.MIDWAY);
         x.tie(0, 1, 0, 3);
         for (int what = 0; what < 3; what++) {
             due("no GAMES", 0, x.byCup(3, 1, what));
@@ -270,7 +295,7 @@ public final class WhatIfBoundsTest {
         Twins.leavesAll("fairest(1)", 1, Twins.MIDWAY, x -> x.fairest(1));
         // 4 and 17 by both, though it is of CUP 1
         Twins.leavesAll("fairest(2)", 0, Twins.MIDWAY, x -> x.fairest(2));
-        CupPot x = midway();
+        CupPot x = Twins.made(Twins.MIDWAY);
         x.tie(1, 0, 1, 2);
         due("no GAMES", 0, x.fairest(3));
     }
@@ -305,7 +330,8 @@ public final class WhatIfBoundsTest {
     }
 
     private static void temptWithin() {
-        Check.says("had of two GAMES, half of the GATE, cut, and what is left of it, than of one with all of it");
+        Check.says("TEMPT: how much more (below 0: less) the FIRST (what 0), the SECOND (1) of a TIE had of two GAMES, "
+            + "half of the GATE, cut, and what is left of it, than of one with all of it");
         tempt(0, 0, 0);
         // 0 and 1: of the second of both GAMES the FIRST is HOST
         tempt(1, 0 + 1 - 0, 0 + 0 - 1);

@@ -24,6 +24,7 @@ public final class LookBoundsTest {
         countWithin();
         countOthers();
         countWithoutABook();
+        eachLookAtOnce();
         Check.finish("LookBoundsTest");
     }
 
@@ -359,5 +360,30 @@ public final class LookBoundsTest {
         }
         Twins.leavesAll("count(7)", Twins.SMALL_BOOK.length(), Twins.TOLD, x -> x.count(7));
         Twins.leavesAll("count(7)", 0, x -> { }, x -> x.count(7));
+    }
+
+    /** Each look tells of the latest act, also when it is the first one behind it. */
+    private static void eachLookAtOnce() {
+        Check.says("the answers and state changes described above");
+        Twins.Call[] looks = {x -> x.club(3, 3), x -> x.club(0, 7), x -> x.club(3, 8), x -> x.club(0, 10), x -> x.cup(0, 12), x -> x.cup(1, 13),
+            x -> x.tieOf(0, 6), x -> x.game(0, 0, 0), x -> x.pool(0, 0, 0), x -> x.pool(1, 0, 4), x -> x.all(0), x -> x.all(4),
+            x -> x.balance(0), x -> x.balance(4), x -> x.fewest(0), x -> x.fewest(1), x -> x.pays(NONE, 0), x -> x.pays(0, 2), x -> x.mark(),
+            x -> x.met(3), x -> x.chain(0, 2), x -> x.in(0), x -> x.ranked(0), x -> x.ranked(2), x -> x.bands(), x -> x.brings(0, 500, 0),
+            x -> x.least(0, 500, 0), x -> x.byCup(0, 0, 0), x -> x.fairest(0), x -> x.tempt(0, 500, 0), x -> x.ifGate(0, 0, 5), x -> x.count(3)};
+        Twins.Step[] acts = {x -> x.tie(0, 1, 0, 3), x -> x.play(2, 3000, 0), x -> x.undo(), x -> Twins.undoAll(x, 3), x -> x.again(0), x -> x.again(1),
+            x -> x.deeds(), x -> x.ifGate(0, 0, 3), x -> {
+                x.play(2, 3000, 1);
+                x.mark();
+                x.close(1, 0);
+            }};
+        for (int act = 0; act < acts.length; act++) {
+            for (int look = 0; look < looks.length; look++) {
+                CupPot atOnce = Twins.made(Twins.then(Twins.MIDWAY, acts[act]));
+                CupPot later = Twins.made(Twins.then(Twins.MIDWAY, acts[act]));
+                later.all(0);
+                later.mark();
+                due("look " + look + " behind act " + act, looks[look].on(later), looks[look].on(atOnce));
+            }
+        }
     }
 }

@@ -1471,7 +1471,6 @@ public final class CupPot {
         private int uneven;
         private final int[] open = new int[SIDES];
         // by each set of the uneven ones but the last, as bits
-        private final int[] sums = new int[1 << MOST_CLUBS];
         private final int[] groups = new int[1 << MOST_CLUBS];
 
         private int payments;
@@ -1500,15 +1499,15 @@ public final class CupPot {
             }
             int sets = 1 << uneven - 1;
             for (int set = 1; set < sets; set++) {
-                int lowest = Integer.numberOfTrailingZeros(set);
-                sums[set] = sums[set & set - 1] + open[lowest];
+                int sum = 0;
                 int most = 0;
-                for (int i = lowest; i < uneven - 1; i++) {
+                for (int i = 0; i < uneven - 1; i++) {
                     if ((set >> i & 1) == 1) {
+                        sum += open[i];
                         most = Math.max(most, groups[set ^ 1 << i]);
                     }
                 }
-                groups[set] = sums[set] == 0 ? most + 1 : most;
+                groups[set] = sum == 0 ? most + 1 : most;
             }
             return groups[sets - 1] + 1;
         }
